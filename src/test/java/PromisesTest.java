@@ -33,6 +33,7 @@ public final class PromisesTest {
         undoing();
         images();
         counts();
+        leastOnes();
         Check.end();
     }
 
@@ -652,6 +653,57 @@ public final class PromisesTest {
         Check.due("a fault leaves the image", x.back(), 3);
         Check.tell(x, "bay a;");
         Check.due("a text drops it", x.back(), -1);
+    }
+
+    /** The least that each call takes, and one bay alone. */
+    private static void leastOnes() {
+        MoodAnchor x = Check.told("bay z;deed z 0 0;wind 1;trust 98;");
+        Check.due("named(z)", x.named(Check.letters("z")), 0);
+        Check.due("deed of joy 0", x.deed(0, 2), 0);
+        Check.due("firstAdrift(1)", x.firstAdrift(1), 1);
+        Check.due("copies(1, 0)", x.copies(1, 0), 49);
+        Check.due("copies(1, 1)", x.copies(1, 1), 50);
+        Check.due("bids(0)", x.bids(0), 0);
+        Check.due("bids(1)", x.bids(1), 0);
+        Check.due("winter(1, 0)", x.winter(1, 0), 0);
+        Check.due("winter(2, 1)", x.winter(2, 1), 1);
+        Check.due("rests(1)", x.rests(1), 1);
+        Check.due("rest(1, 0)", x.rest(1, 0), 0);
+        Check.due("rest(1, 1)", x.rest(1, 1), -2);
+        Check.due("chance(0, 1, 0)", x.chance(0, 1, 0), windsOfNone(0));
+        Check.due("chance(9, 1, 0)", x.chance(9, 1, 0), windsOfNone(9));
+        Check.due("note", x.note(0, 0, true), 0);
+        Check.due("was", x.was(0), 1022);
+        Check.due("out(0)", x.out(0), 1);
+        Check.due("the first one is struck", x.was(0), 1023);
+        Check.due("tells", x.tells(0), 0);
+        Check.due("never()", x.never(), 0);
+        MoodAnchor two = Check.told("bay a;bay b;lane a b 1;ship b;law hold 0;");
+        Check.due("never the first one", two.never(), 1);
+        Check.due("bids of none", two.bids(0), 0);
+        two.sail(0);
+        two.go(1);
+        Check.due("it arrives today", two.way(0, 0), 1);
+        Check.due("never the second one", two.never(), 2);
+        MoodAnchor here = Check.told("bay a;deed a 0 1;law hold here or joys>4;");
+        here.note(0, 0, true);
+        Check.due("from the text here is 0", here.was(0), 992);
+        MoodAnchor nine = Check.told("bay a;deed a 0 1;law hold date=3 and joys>8 or date=4 and joys>7;");
+        Check.due("two of ten", nine.tells(0), 4);
+        Check.due("equal is at least", Check.told("bay a;law fond 5>=5;").law(0, 0), 1);
+        Check.due("unlike is 1", Check.told("bay a;law fond 5<>6;").law(0, 0), 1);
+        Check.due("more is not at most", Check.told("bay a;law fond 6<=5;").law(0, 0), 0);
+    }
+
+    /** In how many of ten single nights there is no wind. */
+    private static int windsOfNone(long seed) {
+        long state = seed;
+        int none = 0;
+        for (int time = 0; time < 10; time++) {
+            state = (state * 1103515245L + 12345L) % 2147483648L;
+            none += state / 65536 % 10 == 0 ? 1 : 0;
+        }
+        return none;
     }
 
     private static void counts() {

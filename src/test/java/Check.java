@@ -4,15 +4,21 @@ import java.nio.charset.StandardCharsets;
 final class Check {
     private static int wrong = 0;
     private static int asked = 0;
+    private static String sentence = "";
 
     private Check() {
+    }
+
+    /** Names what the next answers hold to. */
+    static void under(String words) {
+        sentence = words + ": ";
     }
 
     static void due(String call, long got, long want) {
         asked++;
         if (got != want) {
             wrong++;
-            System.out.println(call + " answered " + got + ", due is " + want);
+            System.out.println(sentence + call + " answered " + got + ", due is " + want);
         }
     }
 
@@ -42,7 +48,7 @@ final class Check {
         MoodAnchor x = new MoodAnchor();
         if (tell(x, text) < 0) {
             wrong++;
-            System.out.println("a text with fault " + x.fault(0) + " at " + x.fault(1) + ": " + text);
+            System.out.println(sentence + "a text with fault " + x.fault(0) + " at " + x.fault(1) + ": " + text);
         }
         return x;
     }

@@ -19,6 +19,9 @@ public final class FaceTest {
         "int count(int)",
     };
 
+    private static final String THROWN =
+        "[class java.lang.IndexOutOfBoundsException, class java.util.NoSuchElementException]";
+
     private FaceTest() {
     }
 
@@ -35,6 +38,15 @@ public final class FaceTest {
         for (Method method : MoodAnchor.class.getDeclaredMethods()) {
             boolean hidden = Modifier.isPrivate(method.getModifiers()) && !names.contains(method.getName());
             Check.due(method + " is of the face or hidden", hidden || Modifier.isPublic(method.getModifiers()), true);
+        }
+        for (Class<?> inside : MoodAnchor.class.getDeclaredClasses()) {
+            for (Method method : inside.getDeclaredMethods()) {
+                Check.due(method + " bears no name of the face", names.contains(method.getName()), false);
+            }
+        }
+        for (Method method : MoodAnchor.class.getDeclaredMethods()) {
+            String due = method.getName().equals("bay") ? THROWN : "[]";
+            Check.due(method + " throws as the face says", Arrays.toString(method.getExceptionTypes()).equals(due), true);
         }
         for (Constructor<?> made : MoodAnchor.class.getDeclaredConstructors()) {
             Check.due(made + " is public, without arguments",

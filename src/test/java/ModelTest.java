@@ -12,7 +12,10 @@ public final class ModelTest {
         "zz", "abcdef", "abcdefg", "<", "<=", "=", "<>", ">=", ">", "+", "-", "*", "/", "(", ")", ";", "0", "1", "9",
         "10", "99", "100", "9999", "10000", "!", "\t"};
     private static final String[] NAMES = {"a", "b", "cork", "riga", "lagos", "abcdef", "z", "zz"};
-    private static final String[] SIGNS = {"+", "-", "*", "/", "<", "<=", "=", "<>", ">=", ">", " and ", " or "};
+    /** From what binds least on; not stands between and and the comparisons. */
+    private static final String[][] SIGNS = {{" or "}, {" and "}, {}, {"<", "<=", "=", "<>", ">=", ">"}, {"+", "-"}, {"*", "/"}};
+    private static final int NEGATIONS = 2;
+    private static final int COMPARISONS = 3;
     private static final String[] VALUES = {"joys", "last", "many", "gale", "date", "mood", "here", "0", "1", "2", "5",
         "10", "100", "9999"};
 
@@ -231,8 +234,8 @@ public final class ModelTest {
         }
         int mask = random.nextInt(128) & random.nextInt(128) | random.nextInt(128) & random.nextInt(128);
         String[] rest = {"ship " + NAMES[random.nextInt(bays)], "reach " + (1 + random.nextInt(9)),
-            "trust " + random.nextInt(101), "seed " + random.nextInt(100000), "law fond " + expression(3),
-            "law hold " + expression(3), "law gain " + expression(2)};
+            "trust " + random.nextInt(101), "seed " + random.nextInt(100000), "law fond " + expression(3, 0),
+            "law hold " + expression(3, 0), "law gain " + expression(2, 0)};
         for (int i = 0; i < rest.length; i++) {
             if ((mask >> i & 1) == 1) {
                 lines.add(rest[i]);
@@ -245,17 +248,20 @@ public final class ModelTest {
         return all.length() > 700 ? text() : all.toString();
     }
 
-    private String expression(int depth) {
-        int kind = depth == 0 ? 0 : random.nextInt(10);
-        if (kind < 3) {
-            return VALUES[random.nextInt(VALUES.length)];
+    /** By the grammar of E: what binds closer stands without brackets as often as within them. */
+    private String expression(int depth, int level) {
+        if (level == SIGNS.length) {
+            boolean opens = depth > 0 && random.nextInt(4) == 0;
+            return opens ? "(" + expression(depth - 1, 0) + ")" : VALUES[random.nextInt(VALUES.length)];
         }
-        if (kind == 3) {
-            return "(not " + expression(depth - 1) + ")";
+        if (level == NEGATIONS) {
+            return random.nextInt(5) == 0 ? "not " + expression(depth, level) : expression(depth, level + 1);
         }
-        String sign = SIGNS[random.nextInt(SIGNS.length)];
-        String both = expression(depth - 1) + sign + expression(depth - 1);
-        return random.nextInt(3) > 0 ? "(" + both + ")" : both.matches(".*[<=>].*") ? "(" + both + ")" : both;
+        StringBuilder row = new StringBuilder(expression(depth, level + 1));
+        for (int i = level == COMPARISONS ? 1 : 2; i > 0 && random.nextInt(4) == 0; i--) {
+            row.append(SIGNS[level][random.nextInt(SIGNS[level].length)]).append(expression(depth, level + 1));
+        }
+        return row.toString();
     }
 
     private String tokens() {
@@ -288,7 +294,9 @@ public final class ModelTest {
                     break;
                 default:
                     int end = Math.max(at, all.indexOf(";", at));
-                    all.insert(end, ";" + all.substring(all.lastIndexOf(";", Math.max(0, end - 1)) + 1, end));
+                    // A text that begins with ';' has no line ahead of it to tell twice.
+                    int start = Math.min(end, all.lastIndexOf(";", Math.max(0, end - 1)) + 1);
+                    all.insert(end, ";" + all.substring(start, end));
             }
         }
         return all.length() > 700 ? all.substring(0, 700) : all.toString();

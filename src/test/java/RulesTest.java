@@ -37,11 +37,22 @@ public final class RulesTest {
                 Check.due("the method that ends at line " + (i + 1) + " is short", i - start <= 60, true);
                 start = i;
             }
+            made(i + 1, code);
             parameters(i + 1, code);
             imports(code);
         }
         Check.due("classes", classes <= 12, true);
         Check.end();
+    }
+
+    /** Rows are made with the object, as fields or in the class's own constructor: no call makes one but to throw it. */
+    private static void made(int line, String code) {
+        if (code.contains("new ")) {
+            boolean isField = code.matches(" {8}private final [\\w\\[\\]]+ \\w+ = new .*;");
+            boolean isOwn = code.matches(" {8}\\w+ = new [A-Z]\\w+\\(.*\\);");
+            boolean isThrown = code.matches(" +throw new \\w+Exception\\(\"[a-z ]+\"\\);");
+            Check.due("line " + line + " makes an object once", isField || isOwn || isThrown, true);
+        }
     }
 
     private static void parameters(int line, String code) {
